@@ -479,6 +479,7 @@ public final class PromisesTest {
         due("take", taken(h, 1, 0, 0, 9, 0), 0);
         due("read", h.read(1, 0, 4), 4);
         due("8 is less than 9", h.stream(1, 0, 13), 9);
+        due("nothing to tell", h.fill(1, 100), -1);
         due("read", h.read(1, 0, 1), 1);
         due("10 is not", h.stream(1, 0, 13), 14);
         due("DATA GRANT", h.side(1, 4), 20);
@@ -1002,6 +1003,15 @@ public final class PromisesTest {
         due("MAX STREAMS", h.fill(1, 100), 0);
         thrown("another frame at the place", STATE, () -> { h.gone(0, true); return 0; });
         frame(h, 0, 1, 18, 5);
+        due("there", h.take(1, 21, 4, 0, 0), 0);
+        h.open(0, true);
+        due("STOP and RESET", h.stop(1, 4, 2) && h.reset(1, 4, 2), true);
+        due("RESET", h.fill(1, 100), 1);
+        due("STOP", h.fill(1, 100), 2);
+        due("MAX STREAMS of ONE way", h.fill(1, 100), 3);
+        due("deliver", h.deliver(2), 0);
+        h.gone(2, true);
+        due("the STOP is here, not the RESET", h.stream(1, 4, 0), 3);
     }
 
     private static void promise14Errors() {
@@ -1248,6 +1258,9 @@ public final class PromisesTest {
         due("read", h.read(0, 1, 8), 1);
         due("nothing of what was before", h.outs(0), 1);
         thrown("1", ELEMENT, () -> h.outs(1));
+        due("take", taken(h, 0, 1, 11, 4, 0), 0);
+        due("read", h.read(0, 1, 8), 4);
+        due("nothing of what was before", h.outs(2), 0x0403);
     }
 
     private static void promise18() {
