@@ -13,6 +13,7 @@ public final class FillingTest {
         stopFrame();
         maxFrames();
         dataBlocked();
+        blockedAtTheLastId();
         streamDataBlocked();
         streamsBlocked();
         notAgain();
@@ -266,6 +267,21 @@ public final class FillingTest {
         Run.of(sentence).calls("""
             grant 1 4 0; join; open 0 true = 0; tape 1; write 0 0 = 1; fill 0 99 = 0; frame 0 = 0 20 0 0 0 0 2
             fill 0 99 = -1""");
+    }
+
+    /** The walk over all streams goes to the id 255, and not beyond it. */
+    private static void blockedAtTheLastId() {
+        Run run = Run.of("if a sending part in the states 0, 1 has more written than sent").calls("grant 0 4 0; grant 0 9 64; join");
+        for (int n = 0; n < 64; n++) {
+            run.calls("open 1 false = " + (4 * n + 3));
+        }
+        run.calls("fill 1 99 = -1; tape 1; write 1 255 = 1; fill 1 99 = 0; frame 0 = 1 20 0 0 0 0 2; fill 1 99 = -1")
+            .calls("take 1 16 1 0 0 = 0; fill 1 99 = 1; frame 1 = 1 8 255 0 0 1 5; fill 1 99 = -1");
+        Run full = Run.of("STREAM DATA BLOCKED, if it has, and its SENT is its LIMIT").calls("grant 0 7 0; grant 0 9 64; join");
+        for (int n = 0; n < 64; n++) {
+            full.calls("open 1 false = " + (4 * n + 3));
+        }
+        full.calls("fill 1 99 = -1; tape 1; write 1 255 = 1; fill 1 99 = 0; frame 0 = 1 21 255 0 0 0 4; fill 1 99 = -1");
     }
 
     private static void streamDataBlocked() {
