@@ -61,6 +61,9 @@ public final class EdgesTest {
             side 0 1 = 6; side 1 4 = 6; side 0 7 = 11; side 0 8 = 12; side 1 11 = 11; side 1 12 = 12; side 1 1 = 4096
             side 1 7 = 4; open 0 true = 0; stream 0 0 3 = 9; take 0 5 1 0 0 = 0; stream 0 1 3 = 8; open 0 false = 2
             stream 0 2 3 = 10; open 1 false = 3; stream 1 3 3 = 1024""");
+        Run.of("Grant id of a side.").calls("""
+            side 1 4 = 4096; side 1 11 = 4; side 1 12 = 4; grant 1 4 7; grant 1 8 11; grant 1 9 12; side 1 4 = 7
+            side 1 11 = 11; side 1 12 = 12; side 0 4 = 4096; side 0 11 = 4; side 0 12 = 4""");
         String wrong = "Throws IllegalArgumentException when there is no such side, id is not 4 .. 9, "
             + "or v not 0 .. 65536 (8, 9: 0 .. 64)";
         Run.of(wrong).calls("""

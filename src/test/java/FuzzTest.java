@@ -1,3 +1,5 @@
+import java.util.ArrayList;
+import java.util.List;
 import java.util.NoSuchElementException;
 import java.util.Random;
 
@@ -16,11 +18,19 @@ public final class FuzzTest {
     private final PlainHall plain = new PlainHall();
     private final StringBuilder story = new StringBuilder();
     private final int tame;
+    /** In a busy run most calls are of streams that were opened and of frames that are on the line. */
+    private final boolean busy;
+    /** In a crowded run side 0 opens as many streams of BOTH ways as there can be. */
+    private final boolean crowded;
+    private final List<Integer> opened = new ArrayList<>();
+    private final List<Integer> laid = new ArrayList<>();
     private final int[] kinds = {4, 5, 8, 8, 8, 16, 17, 17, 18, 19, 20, 21, 22, 23};
 
     private FuzzTest(long seed) {
         random = new Random(seed);
         tame = random.nextInt(4);
+        busy = random.nextInt(2) == 0;
+        crowded = random.nextInt(8) == 0;
     }
 
     public static void main(String[] args) {
@@ -36,6 +46,11 @@ public final class FuzzTest {
 
     private String run() {
         int calls = 0;
+        if (crowded) {
+            calls++;
+            hall.grant(1, 8, 64);
+            plain.grant(1, 8, 64);
+        }
         int grants = random.nextInt(8);
         for (int i = 0; i < grants; i++) {
             calls++;
@@ -65,6 +80,9 @@ public final class FuzzTest {
         int which = random.nextInt(100);
         if (calls < 20 && random.nextInt(8) == 0) {
             return same(2, 0, 0, 0, 0, 0);
+        }
+        if (crowded && random.nextInt(4) == 0) {
+            return same(4, 0, 1, 0, 0, 0);
         }
         if (which < 14) {
             return same(3, random.nextInt(30) == 0 ? random.nextInt(20) - 5 : 1 + random.nextInt(8),
@@ -126,6 +144,9 @@ public final class FuzzTest {
     }
 
     private int id() {
+        if (busy && !opened.isEmpty() && random.nextInt(8) != 0) {
+            return opened.get(random.nextInt(opened.size()));
+        }
         switch (random.nextInt(20)) {
             case 0: return random.nextInt(300) - 20;
             case 1: return random.nextInt(30);
@@ -134,6 +155,9 @@ public final class FuzzTest {
     }
 
     private int place() {
+        if (busy && !laid.isEmpty() && random.nextInt(8) != 0) {
+            return laid.get(random.nextInt(laid.size()));
+        }
         return random.nextInt(30) == 0 ? random.nextInt(70) - 3 : random.nextInt(12);
     }
 
@@ -179,7 +203,18 @@ public final class FuzzTest {
         }
         story.append(call).append('(').append(p).append(", ").append(q).append(", ").append(r).append(", ")
             .append(s).append(", ").append(t).append(") ").append(got).append(", due ").append(due).append('\n');
+        remember(call, (int) p, got);
         return got == due;
+    }
+
+    private void remember(int call, int p, long got) {
+        if (call == 4 && got >= 0) {
+            opened.add((int) got);
+        } else if (call == 10 && got >= 0) {
+            laid.add((int) got);
+        } else if (call == 12 && got == 0) {
+            laid.remove(Integer.valueOf(p));
+        }
     }
 
     private long ofHall(int call, int p, long q, long r, long s, long t) {
